@@ -1448,7 +1448,7 @@ public final class WindCabinet {
         }
 
         void read(int howMany, int sort) {
-            startOn(howMany, sort);
+            startOn(howMany);
             boolean goesOn = true;
             for (int line = 0; line < TAPE && goesOn && token != END; line++) {
                 goesOn = readLine(sort);
@@ -1458,11 +1458,9 @@ public final class WindCabinet {
             }
         }
 
-        private void startOn(int howMany, int sort) {
+        private void startOn(int howMany) {
             republic.clear();
             rows.clear();
-            // A bargain has a row for each minister from the first, told of or not.
-            rows.size = sort == BARGAINS ? MINISTERS : 0;
             fault = 0;
             place = NONE;
             length = howMany;

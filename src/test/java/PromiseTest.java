@@ -154,6 +154,15 @@ public final class PromiseTest {
         Check.tell(c, Check.BARGAIN, 0, "share 2 7;");
         Check.due("no share of the one before", c.bargain(0, 0, 1), 0);
         Check.due("its own share", c.bargain(0, 0, 2), 7);
+        String two = "minister 1 1 1 1; minister 1 1 1 1;";
+        Check.told(c, 0, two + "want 0 spring 1 1 1; veto 0; feud 0 1; office sun 1; heat 1;");
+        Check.tell(c, 0, 0, two);
+        Check.due("no want of the text before", c.minister(0, 0, 10), 0);
+        Check.due("no veto of the text before", c.minister(0, 0, 4), 0);
+        Check.due("no feud of the text before", c.minister(0, 0, 5), 0);
+        Check.due("no office of the text before", c.republic(0, 12), 0);
+        Check.due("no heat of the text before", c.republic(0, 5), 20);
+        Check.due("its want stays", c.minister(1, 0, 10), 1);
     }
 
     private static void fault() {
@@ -176,6 +185,13 @@ public final class PromiseTest {
 
     private static void faultsOfGrammar() {
         Check.faulty(0, "ministers 1 1 1 1;", 1, 0);
+        Check.faulty(0, "quotaz 5;", 1, 0);
+        Check.faulty(0, "quotaa 5;", 1, 0);
+        Check.faulty(0, "quot 5;", 1, 0);
+        Check.faulty(0, "quota` 5;", 1, 5);
+        Check.faulty(0, "quota{5;", 1, 5);
+        Check.faulty(0, "quota /5;", 1, 6);
+        Check.faulty(0, "quota 5:", 1, 7);
         Check.faulty(0, "minister 1 1 1;", 1, 14);
         Check.faulty(0, "minister 1 1 1 1", 1, 16);
         Check.faulty(0, "quota 1  \n", 1, 10);
