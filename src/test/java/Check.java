@@ -1,3 +1,5 @@
+import java.util.Arrays;
+
 /** What the tests share: telling texts, and counting answers that are not due. */
 final class Check {
     static final int REPUBLIC = 0;
@@ -7,8 +9,16 @@ final class Check {
     static final int SUMMER = 4;
     static final int BARGAIN = 5;
 
+    /** Numbers that are too small or too large for all that the document bounds. */
+    static final int[] WILD = {Integer.MIN_VALUE, Integer.MIN_VALUE + 1, -1000, 1000, Integer.MAX_VALUE};
+
     private static int wrong;
     private static int checked;
+
+    /** A call with numbers alone; a boolean counts 1 or 0. */
+    interface Call {
+        int of(int[] numbers);
+    }
 
     private Check() {
     }
@@ -70,5 +80,48 @@ final class Check {
         due("fault's place in \"" + text + "\"", cabinet.fault(1), place);
         due("count behind \"" + text + "\"", cabinet.count(sort), 0);
         due("end behind \"" + text + "\"", cabinet.end(1), -1);
+    }
+
+    /** The lines of ministers, each by VOTES, YIELD, TEMPER, PRICE. */
+    static String ministers(String... ones) {
+        StringBuilder text = new StringBuilder();
+        for (String one : ones) {
+            text.append("minister ").append(one).append(';');
+        }
+        return text.toString();
+    }
+
+    /** A new object that was told those texts, one of each sort from 0 on. */
+    static WindCabinet of(String... texts) {
+        WindCabinet cabinet = new WindCabinet();
+        for (int sort = 0; sort < texts.length; sort++) {
+            told(cabinet, sort, texts[sort]);
+        }
+        return cabinet;
+    }
+
+    /** That the tape has just so many bytes; it is left as it is. */
+    static void tapeHas(String call, WindCabinet cabinet, int bytes) {
+        due(call + ": end beyond the tape", cabinet.end(bytes + 1), -1);
+        due(call + ": the tape's end", cabinet.end(bytes), bytes);
+    }
+
+    /** Each of the good numbers in turn gives way to each that isn't; with all of them good the call is not refused. */
+    static void refused(String name, int due, Call call, int[] good, int[]... bad) {
+        due(name + ", all good, is not refused", call.of(good) != due, true);
+        for (int i = 0; i < bad.length; i++) {
+            for (int number : bad[i]) {
+                int[] numbers = good.clone();
+                numbers[i] = number;
+                due(name + Arrays.toString(numbers) + " is refused", call.of(numbers), due);
+            }
+        }
+    }
+
+    /** Those numbers and the wild ones; -1000 and 1000 stay below 0 and beyond all rows. */
+    static int[] andWild(int... numbers) {
+        int[] all = Arrays.copyOf(numbers, numbers.length + WILD.length);
+        System.arraycopy(WILD, 0, all, numbers.length, WILD.length);
+        return all;
     }
 }
