@@ -58,7 +58,7 @@ public final class WindCabinet {
 
     private final Told told = new Told();
     private final Told[] images = new Told[IMAGES];
-    private final Reader reader = new Reader(told.tape);
+    private final Reader reader = new Reader();
     private final Course course = new Course();
     private final Sky sky = new Sky();
     private final int[] rainLeft = new int[ROWS];
@@ -106,7 +106,7 @@ public final class WindCabinet {
         if (place == NONE) {
             return ABSENT;
         }
-        reader.read(taken, sort);
+        reader.read(told.tape, taken, sort);
         told.fault = reader.fault;
         told.place = reader.place;
         if (reader.fault != 0) {
@@ -1417,7 +1417,7 @@ public final class WindCabinet {
         }
     }
 
-    /** Reads the tape as a text of a sort; what it tells is the republic or the rows, if there is no fault. */
+    /** Reads bytes as a text of a sort; what it tells is the republic or the rows, if there is no fault. */
     private static final class Reader {
         private static final int END = 0;
         private static final int WORD = 1;
@@ -1434,7 +1434,7 @@ public final class WindCabinet {
         final Rows rows = new Rows();
         int fault;
         int place;
-        private final int[] tape;
+        private final int[] tape = new int[TAPE];
         private final int[] parts = new int[PARTS];
         private int length;
         private int token;
@@ -1443,11 +1443,8 @@ public final class WindCabinet {
         private int lines;
         private int toldOf;
 
-        Reader(int[] tape) {
-            this.tape = tape;
-        }
-
-        void read(int howMany, int sort) {
+        void read(int[] bytes, int howMany, int sort) {
+            copy(bytes, tape);
             startOn(howMany);
             boolean goesOn = true;
             for (int line = 0; line < TAPE && goesOn && token != END; line++) {

@@ -6,17 +6,14 @@ import java.lang.reflect.Modifier;
 import java.nio.charset.StandardCharsets;
 import java.nio.file.Files;
 import java.nio.file.Path;
-import java.util.ArrayList;
-import java.util.HashMap;
 import java.util.HashSet;
 import java.util.List;
-import java.util.Map;
 import java.util.Set;
 import java.util.TreeSet;
 import java.util.regex.Matcher;
 import java.util.regex.Pattern;
 
-/** The document's face, and of the rules of LANGUAGE.md those that can be seen from the source's words. */
+/** The document's face, and of the rules of LANGUAGE.md those that the source's words or the made class tell. */
 public final class RulesTest {
     private static final Path SOURCE = Path.of("src/main/java/WindCabinet.java");
     private static final String[] FACE = {
@@ -37,8 +34,6 @@ public final class RulesTest {
         "\\bArrays\\.(?!copyOf|copyOfRange|fill)", "Exact\\b", "\\bprotected\\b", "\\bwhile \\(true\\)", "\\bfor \\(;;\\)",
         "\\b(equals|hashCode|toString)\\(", "\\bObject\\b", "\\bstatic \\{", "[^\\x00-\\x7f]", "\\t",
     };
-    private static final Pattern METHOD = Pattern.compile(
-            "(?m)^( {4}| {8})((?:public |private |static |final )*)(?:[A-Za-z]+(?:\\[\\])? )?([A-Za-z]+)\\(([^)]*)\\) \\{$");
 
     private RulesTest() {
     }
@@ -48,7 +43,6 @@ public final class RulesTest {
         face();
         nestedClasses();
         words(source);
-        methods(source);
         Check.finish();
     }
 
@@ -124,40 +118,5 @@ public final class RulesTest {
             Check.due("forbidden " + word, m.find(), false);
         }
         Check.due("texts joined by +", Pattern.compile("\" \\+|\\+ \"").matcher(bare).find(), false);
-    }
-
-    private static void methods(String source) {
-        Map<String, String> bodies = new HashMap<>();
-        Matcher m = METHOD.matcher(source);
-        while (m.find()) {
-            int end = source.indexOf("\n" + m.group(1) + "}\n", m.start());
-            String body = source.substring(m.end(), end);
-            Check.due("some sixty lines: " + m.group(3), body.split("\n").length <= 50, true);
-            Check.due("at most seven parameters: " + m.group(3), m.group(4).split(",").length <= 7, true);
-            bodies.merge(m.group(3), body, String::concat);
-        }
-        Check.due("methods found", bodies.size() > 100, true);
-        for (String name : bodies.keySet()) {
-            int deep = depth(name, bodies, new ArrayList<>());
-            Check.due("calls at most eight deep from " + name + ": " + deep, deep <= 8, true);
-        }
-    }
-
-    /** Methods of one name count as one, so that this is never less than the depth. */
-    private static int depth(String name, Map<String, String> bodies, List<String> open) {
-        if (open.contains(name)) {
-            Check.due("recursion of " + name + " in " + open, 1, 0);
-            return 0;
-        }
-        open.add(name);
-        int deepest = 0;
-        Matcher m = Pattern.compile("([A-Za-z]+)\\(").matcher(bodies.get(name));
-        while (m.find()) {
-            if (bodies.containsKey(m.group(1))) {
-                deepest = Math.max(deepest, depth(m.group(1), bodies, open));
-            }
-        }
-        open.remove(name);
-        return deepest + 1;
     }
 }
